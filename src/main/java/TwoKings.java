@@ -515,6 +515,11 @@ public final class TwoKings {
             return tideOver * highOver;
         }
 
+        /** D TIDES last N minutes, no part more: who rules comes again as it was after these. */
+        int minutesOfRound() {
+            return Math.max(1, tideOver);
+        }
+
         /** How far behind the begin of its TIDE a minute begins. */
         long partsBehindBegin(long m, int year) {
             long since = m - origin - (long) silt * year;
@@ -554,12 +559,13 @@ public final class TwoKings {
         }
 
         void put(Reign reign) {
+            if (top >= room) top = 0;
             minutes[top] = reign.minute;
             years[top] = reign.year;
             highWorths[top] = reign.highWorth;
             lowWorths[top] = reign.lowWorth;
             laws[top] = reign.laws;
-            top = top + 1 < room ? top + 1 : 0;
+            top++;
             held = Math.min(held + 1, room);
         }
 
@@ -614,6 +620,11 @@ public final class TwoKings {
         }
 
         int minutesOf(int who, long m, int n) {
+            int round = plan.minutesOfRound();
+            return n / round * minutesWithinRound(who, m, round) + minutesWithinRound(who, m, n % round);
+        }
+
+        private int minutesWithinRound(int who, long m, int n) {
             int found = 0;
             int step = 1;
             for (int gone = 0; gone < n; gone += Math.max(1, step)) {
@@ -624,8 +635,9 @@ public final class TwoKings {
         }
 
         long firstOf(int who, long m) {
+            int reach = Math.min(NEXT_REACH, plan.minutesOfRound());
             int step = 1;
-            for (int gone = 0; gone <= NEXT_REACH; gone += Math.max(1, step)) {
+            for (int gone = 0; gone <= reach; gone += Math.max(1, step)) {
                 if (rulerAt(m + gone) == who) return m + gone;
                 step = stretchFrom(m + gone);
             }
@@ -655,8 +667,9 @@ public final class TwoKings {
          * stretch begins is not later in it either, so only the begins are looked at.
          */
         long firstLawful(int a, int b, long m) {
+            int reach = Math.min(LAWFUL_REACH, plan.minutesOfRound());
             int step = 1;
-            for (int gone = 0; gone <= LAWFUL_REACH; gone += Math.max(1, step)) {
+            for (int gone = 0; gone <= reach; gone += Math.max(1, step)) {
                 if (isLawful(a, m + gone) && isLawful(b, m + gone)) return m + gone;
                 step = stretchFrom(m + gone);
             }
@@ -749,8 +762,13 @@ public final class TwoKings {
 
         int bestTreaty() {
             int best = 0;
+            int most = gainsOfTreaty(0);
             for (int set = 1; set < 1 << plan.acts; set++) {
-                if (isFirm(set) && gainsOfTreaty(set) > gainsOfTreaty(best)) best = set;
+                int gains = gainsOfTreaty(set);
+                if (gains > most && isFirm(set)) {
+                    most = gains;
+                    best = set;
+                }
             }
             return best;
         }
