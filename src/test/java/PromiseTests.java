@@ -177,6 +177,15 @@ public final class PromiseTests {
         due("4: asked again", x.fault(), 3);
         put(x, ";");
         due("4: the text went on", x.fault(), 3);
+        x.wipe();
+        put(x, "o1");
+        due("4: nothing behind the end counts", x.fault(), 0);
+        x.wipe();
+        put(x, "s01;".repeat(99) + "o123");
+        due("4: half an ITEM as byte 400", x.fault(), 396);
+        x.wipe();
+        put(x, "s01;".repeat(99) + "o12;");
+        due("4: an ITEM as far as byte 400", x.fault(), NONE);
     }
 
     private static void lay() {
@@ -204,6 +213,13 @@ public final class PromiseTests {
         due("5: the last sS counts", last.rules(5), 2);
         TwoKings without = island("a0,1,1,1,1;");
         due("5: TIDES without", without.rules(372), 2);
+        last.wipe();
+        put(last, "a0,1,1,1,1;");
+        last.lay();
+        due("5: TIDES of the TEXT before are gone", last.rules(372), 2);
+        due("5: its begin is gone", last.rules(0), 2);
+        last.year(9);
+        due("5: its silt is gone", last.rules(0), 2);
     }
 
     private static void layRefused() {
@@ -584,6 +600,7 @@ public final class PromiseTests {
         due("22: two", x.firm(9), 1);
         due("22: one of them harms", x.firm(11), 0);
         due("22: all", x.firm(15), 0);
+        due("22: ACT 0 alone harms", island("a0,3,1,40,60;").firm(1), 0);
         due("22: -1", x.firm(-1), BAD);
         due("22: 16", x.firm(16), BAD);
         TwoKings six = island("a0,0,1,50,50;".repeat(6));
@@ -601,6 +618,9 @@ public final class PromiseTests {
         x.allow(3, 1, true);
         due("23: LAWS as they are now", x.treaty(0), 32);
         due("23: the same GAINS", x.treaty(1), 2112);
+        TwoKings first = island("a0,0,1,60,51;a0,0,1,40,99;");
+        due("23: ACT 0 alone", first.treaty(0), 1);
+        due("23: ACT 0 alone, 11", first.treaty(1), 2011);
         TwoKings y = island("a0,1,1,0,0;a0,0,1,40,99;");
         due("23: the empty set", y.treaty(0), 0);
         due("23: less than nothing", y.treaty(1), 1900);
@@ -682,6 +702,14 @@ public final class PromiseTests {
         y.line(131, 2);
         due("28: 31 ahead is too far", y.shift(0), 0);
         due("28: so it is 0", y.shift(1), 30);
+        y.noTable();
+        y.line(99, 2);
+        due("28: 1 behind", y.shift(1), 31);
+        y.noTable();
+        y.line(101, 2);
+        due("28: 1 ahead", y.shift(1), 29);
+        y.year(50);
+        due("28: no silt here", y.shift(1), 29);
         x.line(120, 2);
         due("28: 20 ahead and 30 behind", x.shift(1), 10);
         x.noTable();
@@ -722,6 +750,9 @@ public final class PromiseTests {
         due("29: 6 and 3, HIGH below", x.wreck(4, 10, 0, 1), 3);
         due("29: 6 and 3, LOW above", x.wreck(4, 10, 1, 0), 1);
         due("29: 6 and 3, LOW below", x.wreck(4, 10, 1, 1), 3);
+        due("29: a minute of his alone", x.wreck(1, 1, 0, 0), 1);
+        due("29: 6 and 5, above", x.wreck(4, 12, 0, 0), 6);
+        due("29: 6 and 5, below", x.wreck(4, 12, 0, 1), 11);
         due("29: none of his", x.wreck(1, 9, 1, 0), 0);
         due("29: none of his, below", x.wreck(1, 9, 1, 1), 1);
         due("29: all his", x.wreck(1, 9, 0, 0), 1);
@@ -751,6 +782,12 @@ public final class PromiseTests {
         // z 9999: x 79182082, x times x is far over 2 to the 31st, modulo 65521 = 51303, HIGH.
         due("30: z 9999", x.drawn(9999, 1), 1);
         for (int z : new int[] {0, 1, 17, 5000, 9999}) due("30: z " + z, x.drawn(z, 200), drawnByHand(x, z, 200, 2));
+        // One ACT alone: minutes 1 and 41487 are HIGH's, 10299 is LOW's.
+        TwoKings one = island(PLAIN + "a0,1,1,1,1;");
+        due("30: one ACT, each time", one.drawn(0, 2), 2);
+        due("30: one ACT, the third is not", one.drawn(0, 3), 2);
+        one.allow(0, 1, true);
+        due("30: LAWS as they are now", one.drawn(0, 3), 3);
         due("30: z -1", x.drawn(-1, 1), BAD);
         due("30: z 10000", x.drawn(10000, 1), BAD);
         due("30: n 0", x.drawn(0, 0), BAD);
